@@ -35,10 +35,10 @@ public final class PractisedWrong {
 
     private static final int MILLION = 1000000;
 
-    private final Hands now = new Hands();
     private final Practice practice = new Practice();
-    private final Planner planner = new Planner(practice, now);
-    private final Ear ear = new Ear(practice, now);
+    private final Hands now = practice.now;
+    private final Planner planner = new Planner();
+    private final Ear ear = new Ear();
     private final Changes changes = new Changes();
     private final Bodies bodies = new Bodies();
     private final Shelf[] shelves = new Shelf[SHELF_ROOM];
@@ -132,8 +132,8 @@ public final class PractisedWrong {
         if (refusal != 0) {
             return refusal;
         }
-        planner.walk(shelves[shelf], ROW_ROOM);
-        return what == 0 ? planner.thought.right[bar] : planner.thought.wrong[bar];
+        planner.walk(practice, shelves[shelf], ROW_ROOM);
+        return what == 0 ? practice.thought.right[bar] : practice.thought.wrong[bar];
     }
 
     public int came(int shelf, int k) {
@@ -147,7 +147,7 @@ public final class PractisedWrong {
         if (k >= shelves[shelf].length) {
             return NOT;
         }
-        planner.walk(shelves[shelf], k + 1);
+        planner.walk(practice, shelves[shelf], k + 1);
         return planner.counted > k ? planner.latest : NOT;
     }
 
@@ -159,11 +159,11 @@ public final class PractisedWrong {
         if (refusal != 0) {
             return refusal;
         }
-        planner.walk(shelves[shelf], ROW_ROOM);
+        planner.walk(practice, shelves[shelf], ROW_ROOM);
         switch (what) {
-            case 0: return planner.thought.lessonCount();
-            case 1: return planner.thought.lessonBits();
-            case 2: return planner.thought.firstSlip();
+            case 0: return practice.thought.lessonCount();
+            case 1: return practice.thought.lessonBits();
+            case 2: return practice.thought.firstSlip();
             case 3: return planner.rightOnes;
             default: return planner.counted;
         }
@@ -173,18 +173,18 @@ public final class PractisedWrong {
         if (noBar(bar) || outside(slow, 0, 1)) {
             return BAD;
         }
-        return planner.playingsTillRight(bar, slow);
+        return planner.playingsTillRight(practice, bar, slow);
     }
 
     public int stays(int bar) {
-        return noBar(bar) ? BAD : planner.nightsRight(bar);
+        return noBar(bar) ? BAD : planner.nightsRight(practice, bar);
     }
 
     public int with(int n, int what) {
         if (outside(n, 0, 60) || outside(what, 0, 2)) {
             return BAD;
         }
-        planner.choose(n);
+        planner.choose(practice, n);
         switch (what) {
             case 0: return Integer.bitCount(planner.chosenBits);
             case 1: return planner.chosenBits;
@@ -201,7 +201,7 @@ public final class PractisedWrong {
         if (n > 12 || outside(days, 1, 5) || outside(day, -1, days - 1)) {
             return VOID;
         }
-        planner.spreadOver(bar, n, days);
+        planner.spreadOver(practice, bar, n, days);
         return day < 0 ? planner.bestLead : planner.bestDays[day];
     }
 
@@ -210,14 +210,14 @@ public final class PractisedWrong {
             return BAD;
         }
         int refusal = refusalOfBytes(shelf);
-        return refusal != 0 ? refusal : planner.earliestStop(shelves[shelf]);
+        return refusal != 0 ? refusal : planner.earliestStop(practice, shelves[shelf]);
     }
 
     public int finger(int bar, int what) {
         if (noBar(bar) || outside(what, 0, 1)) {
             return VOID;
         }
-        int fewer = planner.fewerByNewFinger(bar);
+        int fewer = planner.fewerByNewFinger(practice, bar);
         if (what == 1) {
             return fewer;
         }
@@ -228,7 +228,7 @@ public final class PractisedWrong {
         if (outside(what, 0, 1)) {
             return BAD;
         }
-        return what == 0 ? planner.runsTillClean() : planner.playingsByBars();
+        return what == 0 ? planner.runsTillClean(practice) : planner.playingsByBars(practice);
     }
 
     // ---- odds, what was heard
@@ -264,7 +264,7 @@ public final class PractisedWrong {
             return BAD;
         }
         int refusal = refusalOfBytes(shelf);
-        return refusal != 0 ? refusal : ear.firstUnlike(shelves[shelf]);
+        return refusal != 0 ? refusal : ear.firstUnlike(practice, shelves[shelf]);
     }
 
     public int wrongFor(int shelf, int bar, int what) {
@@ -275,7 +275,8 @@ public final class PractisedWrong {
         if (refusal != 0) {
             return refusal;
         }
-        return what == 0 ? ear.leastWrong(shelves[shelf], bar) : ear.greatestWrong(shelves[shelf], bar);
+        Shelf heard = shelves[shelf];
+        return what == 0 ? ear.leastWrong(practice, heard, bar) : ear.greatestWrong(practice, heard, bar);
     }
 
     public int fadesFor(int shelf) {
@@ -283,7 +284,7 @@ public final class PractisedWrong {
             return BAD;
         }
         int refusal = refusalOfBytes(shelf);
-        return refusal != 0 ? refusal : ear.leastFades(shelves[shelf]);
+        return refusal != 0 ? refusal : ear.leastFades(practice, shelves[shelf]);
     }
 
     public int which(int shelf) {
@@ -291,17 +292,17 @@ public final class PractisedWrong {
             return BAD;
         }
         int refusal = refusalOfBytes(shelf);
-        return refusal != 0 ? refusal : ear.likeBars(shelves[shelf]);
+        return refusal != 0 ? refusal : ear.likeBars(practice, shelves[shelf]);
     }
 
     public int hearing(int ab, int n, int what) {
         if (ab < 0 || noBar(ab / 100) || noBar(ab % 100) || outside(n, 0, 30) || outside(what, 0, 2)) {
             return VOID;
         }
-        ear.hearEachOther(ab / 100, ab % 100, n);
+        ear.hearEachOther(practice, ab / 100, ab % 100, n);
         switch (what) {
-            case 0: return ear.thought.lead(0);
-            case 1: return ear.thought.lead(1);
+            case 0: return practice.thought.lead(0);
+            case 1: return practice.thought.lead(1);
             default: return ear.firstBoth;
         }
     }
@@ -338,7 +339,7 @@ public final class PractisedWrong {
     }
 
     public int night() {
-        practice.sleepAll(now, practice.habits[Practice.FADES]);
+        practice.sleepAll(now, practice.fades());
         ledger[LED_NIGHTS]++;
         return ledger[LED_NIGHTS];
     }
@@ -629,7 +630,7 @@ public final class PractisedWrong {
         }
     }
 
-    /** How playings and nights change what is in the fingers. */
+    /** How playings and nights change what is in the fingers: now in deed, or in thought. */
     private static final class Practice {
         static final int SLOWLY = 0;
         static final int MARK = 1;
@@ -640,10 +641,16 @@ public final class PractisedWrong {
         private static final int FIRST_SLOW = 20;
         private static final int A_NIGHT = 60;
 
+        final Hands now = new Hands();
+        final Hands thought = new Hands();
         final Law law = new Law();
         final int[] habits = {20, 10, 2, 1, 12};
         /** What the law gave for the latest playing. */
         int given = 0;
+
+        int fades() {
+            return habits[FADES];
+        }
 
         int comes(Hands hands, int bar, int slow) {
             int help = 0;
@@ -969,7 +976,7 @@ public final class PractisedWrong {
         }
     }
 
-    /** What would come of playings and nights, tried in thought on hands of its own. */
+    /** What would come of playings and nights, tried in thought. */
     private static final class Planner {
         private static final int MOST_TIMES = 99;
         private static final int MOST_NIGHTS = 99;
@@ -977,10 +984,6 @@ public final class PractisedWrong {
         private static final int MOST_RUNS = 60;
         private static final int NEVER = 1000;
         private static final int DAY_ROOM = 5;
-
-        private final Practice practice;
-        private final Hands now;
-        final Hands thought = new Hands();
 
         int counted = 0;
         int rightOnes = 0;
@@ -995,23 +998,14 @@ public final class PractisedWrong {
         final int[] bestDays = new int[DAY_ROOM];
         int bestLead = VOID;
 
-        Planner(Practice practice, Hands now) {
-            this.practice = practice;
-            this.now = now;
-        }
-
-        private int fades() {
-            return practice.habits[Practice.FADES];
-        }
-
         /** Walks through a plan, at most so many bytes of it. */
-        void walk(Shelf plan, int most) {
-            thought.takeAll(now);
+        void walk(Practice practice, Shelf plan, int most) {
+            practice.thought.takeAll(practice.now);
             counted = 0;
             rightOnes = 0;
             latest = NOT;
             for (int k = 0; k < plan.length && k < most; k++) {
-                int came = practice.step(thought, (int) plan.at(k), fades());
+                int came = practice.step(practice.thought, (int) plan.at(k), practice.fades());
                 if (came == BAD) {
                     return;
                 }
@@ -1021,43 +1015,43 @@ public final class PractisedWrong {
             }
         }
 
-        int earliestStop(Shelf plan) {
-            walk(plan, ROW_ROOM);
-            int wanted = thought.lessonCount();
+        int earliestStop(Practice practice, Shelf plan) {
+            walk(practice, plan, ROW_ROOM);
+            int wanted = practice.thought.lessonCount();
             int whole = counted;
-            thought.takeAll(now);
+            practice.thought.takeAll(practice.now);
             for (int k = 0; k < whole; k++) {
-                if (thought.lessonCount() >= wanted) {
+                if (practice.thought.lessonCount() >= wanted) {
                     return k;
                 }
-                practice.step(thought, (int) plan.at(k), fades());
+                practice.step(practice.thought, (int) plan.at(k), practice.fades());
             }
             return whole;
         }
 
-        int playingsTillRight(int bar, int slow) {
-            thought.takeBar(bar, now, bar);
-            return tillRight(bar, slow);
+        int playingsTillRight(Practice practice, int bar, int slow) {
+            practice.thought.takeBar(bar, practice.now, bar);
+            return tillRight(practice, bar, slow);
         }
 
-        private int tillRight(int bar, int slow) {
+        private int tillRight(Practice practice, int bar, int slow) {
             for (int k = 0; k <= MOST_TIMES; k++) {
-                if (thought.lead(bar) > 0) {
+                if (practice.thought.lead(bar) > 0) {
                     return k;
                 }
-                practice.playOnce(thought, bar, slow);
+                practice.playOnce(practice.thought, bar, slow);
             }
             return NOT;
         }
 
-        int nightsRight(int bar) {
-            thought.takeBar(bar, now, bar);
-            if (thought.lead(bar) <= 0) {
+        int nightsRight(Practice practice, int bar) {
+            practice.thought.takeBar(bar, practice.now, bar);
+            if (practice.thought.lead(bar) <= 0) {
                 return NOT;
             }
             for (int nights = 0; nights < MOST_NIGHTS; nights++) {
-                practice.sleepOver(thought, bar, fades());
-                if (thought.lead(bar) <= 0) {
+                practice.sleepOver(practice.thought, bar, practice.fades());
+                if (practice.thought.lead(bar) <= 0) {
                     return nights;
                 }
             }
@@ -1065,14 +1059,14 @@ public final class PractisedWrong {
         }
 
         /** Takes the cheapest bars first, of like ones the lowest number: so the bits are least. */
-        void choose(int n) {
-            for (int b = 0; b < now.size; b++) {
-                cost[b] = playingsForMorning(b);
+        void choose(Practice practice, int n) {
+            for (int b = 0; b < practice.now.size; b++) {
+                cost[b] = playingsForMorning(practice, b);
             }
             chosenBits = 0;
             chosenPlayings = 0;
-            for (int round = 0; round < now.size; round++) {
-                int b = cheapestLeft();
+            for (int round = 0; round < practice.now.size; round++) {
+                int b = cheapestLeft(practice.now.size);
                 if (b < 0 || chosenPlayings + cost[b] > n) {
                     return;
                 }
@@ -1081,21 +1075,21 @@ public final class PractisedWrong {
             }
         }
 
-        private int playingsForMorning(int bar) {
-            thought.takeBar(bar, now, bar);
+        private int playingsForMorning(Practice practice, int bar) {
+            practice.thought.takeBar(bar, practice.now, bar);
             for (int k = 0; k <= MOST_WITH; k++) {
-                int right = practice.rightByMorning(thought, bar, fades());
-                if (right > practice.wrongByMorning(thought, bar, fades())) {
+                int right = practice.rightByMorning(practice.thought, bar, practice.fades());
+                if (right > practice.wrongByMorning(practice.thought, bar, practice.fades())) {
                     return k;
                 }
-                practice.playOnce(thought, bar, 1);
+                practice.playOnce(practice.thought, bar, 1);
             }
             return NEVER;
         }
 
-        private int cheapestLeft() {
+        private int cheapestLeft(int size) {
             int best = -1;
-            for (int b = 0; b < now.size; b++) {
+            for (int b = 0; b < size; b++) {
                 boolean left = (chosenBits >> b & 1) == 0;
                 if (left && (best < 0 || cost[b] < cost[best])) {
                     best = b;
@@ -1104,32 +1098,32 @@ public final class PractisedWrong {
             return best;
         }
 
-        void spreadOver(int bar, int n, int dayCount) {
+        void spreadOver(Practice practice, int bar, int n, int dayCount) {
             lastDay = dayCount - 1;
             bestLead = VOID;
-            thought.takeBar(0, now, bar);
-            tryDay(0, n);
+            practice.thought.takeBar(0, practice.now, bar);
+            tryDay(practice, 0, n);
         }
 
         /** The bar as each day begins stands in the place of the day's number. */
-        private void tryDay(int day, int left) {
+        private void tryDay(Practice practice, int day, int left) {
             if (day > lastDay || day >= DAY_ROOM) {
                 return;
             }
             for (int k = 0; k <= left; k++) {
                 if (k > 0) {
-                    practice.playOnce(thought, day, 1);
+                    practice.playOnce(practice.thought, day, 1);
                 }
                 if (day == lastDay && k < left) {
                     continue;
                 }
                 days[day] = k;
-                thought.takeBar(day + 1, thought, day);
-                practice.sleepOver(thought, day + 1, fades());
+                practice.thought.takeBar(day + 1, practice.thought, day);
+                practice.sleepOver(practice.thought, day + 1, practice.fades());
                 if (day == lastDay) {
-                    weigh(thought.lead(day + 1));
+                    weigh(practice.thought.lead(day + 1));
                 } else {
-                    tryDay(day + 1, left - k);
+                    tryDay(practice, day + 1, left - k);
                 }
             }
         }
@@ -1151,41 +1145,41 @@ public final class PractisedWrong {
             return false;
         }
 
-        int fewerByNewFinger(int bar) {
-            int asItIs = orNever(playingsTillRight(bar, 0));
-            thought.takeBar(bar, now, bar);
-            thought.right[bar] = 0;
-            thought.wrong[bar] = 0;
-            return asItIs - practice.habits[Practice.FINGER] - orNever(tillRight(bar, 0));
+        int fewerByNewFinger(Practice practice, int bar) {
+            int asItIs = orNever(playingsTillRight(practice, bar, 0));
+            practice.thought.takeBar(bar, practice.now, bar);
+            practice.thought.right[bar] = 0;
+            practice.thought.wrong[bar] = 0;
+            return asItIs - practice.habits[Practice.FINGER] - orNever(tillRight(practice, bar, 0));
         }
 
         private static int orNever(int playings) {
             return playings == NOT ? NEVER : playings;
         }
 
-        int runsTillClean() {
-            thought.takeAll(now);
+        int runsTillClean(Practice practice) {
+            practice.thought.takeAll(practice.now);
             for (int n = 0; n <= MOST_RUNS; n++) {
-                if (thought.firstSlip() == NOT) {
+                if (practice.thought.firstSlip() == NOT) {
                     return n;
                 }
-                runThrough();
+                runThrough(practice);
             }
             return NOT;
         }
 
-        private void runThrough() {
-            for (int b = 0; b < thought.size; b++) {
-                if (practice.playOnce(thought, b, 0) == 0) {
+        private void runThrough(Practice practice) {
+            for (int b = 0; b < practice.thought.size; b++) {
+                if (practice.playOnce(practice.thought, b, 0) == 0) {
                     return;
                 }
             }
         }
 
-        int playingsByBars() {
+        int playingsByBars(Practice practice) {
             int sum = 0;
-            for (int b = 0; b < now.size; b++) {
-                int playings = playingsTillRight(b, 0);
+            for (int b = 0; b < practice.now.size; b++) {
+                int playings = playingsTillRight(practice, b, 0);
                 if (playings == NOT) {
                     return NOT;
                 }
@@ -1199,28 +1193,16 @@ public final class PractisedWrong {
     private static final class Ear {
         private static final int MOST_FADES = 12;
 
-        private final Practice practice;
-        private final Hands now;
-        final Hands thought = new Hands();
         int firstBoth = NOT;
 
-        Ear(Practice practice, Hands now) {
-            this.practice = practice;
-            this.now = now;
+        int firstUnlike(Practice practice, Shelf heard) {
+            practice.thought.takeAll(practice.now);
+            return unlikeFromThought(practice, heard, practice.fades());
         }
 
-        private int fades() {
-            return practice.habits[Practice.FADES];
-        }
-
-        int firstUnlike(Shelf heard) {
-            thought.takeAll(now);
-            return unlikeFromThought(heard, fades());
-        }
-
-        private int unlikeFromThought(Shelf heard, int fadesTried) {
+        private int unlikeFromThought(Practice practice, Shelf heard, int fadesTried) {
             for (int k = 0; 2 * k < heard.length; k++) {
-                int came = practice.step(thought, (int) heard.at(2 * k), fadesTried);
+                int came = practice.step(practice.thought, (int) heard.at(2 * k), fadesTried);
                 boolean told = 2 * k + 1 < heard.length;
                 if (came == BAD || told && differs(heard.at(2 * k + 1), came)) {
                     return k;
@@ -1234,79 +1216,79 @@ public final class PractisedWrong {
             return came != NOT && (told == 0 || told == 1) && told != came;
         }
 
-        private boolean fitsWrong(Shelf heard, int bar, int wrong) {
-            thought.takeAll(now);
-            thought.wrong[bar] = wrong;
-            return unlikeFromThought(heard, fades()) == NOT;
+        private boolean fitsWrong(Practice practice, Shelf heard, int bar, int wrong) {
+            practice.thought.takeAll(practice.now);
+            practice.thought.wrong[bar] = wrong;
+            return unlikeFromThought(practice, heard, practice.fades()) == NOT;
         }
 
-        int leastWrong(Shelf heard, int bar) {
+        int leastWrong(Practice practice, Shelf heard, int bar) {
             for (int wrong = 0; wrong <= MOST_IN_FINGERS; wrong++) {
-                if (fitsWrong(heard, bar, wrong)) {
+                if (fitsWrong(practice, heard, bar, wrong)) {
                     return wrong;
                 }
             }
             return NOT;
         }
 
-        int greatestWrong(Shelf heard, int bar) {
+        int greatestWrong(Practice practice, Shelf heard, int bar) {
             for (int wrong = MOST_IN_FINGERS; wrong >= 0; wrong--) {
-                if (fitsWrong(heard, bar, wrong)) {
+                if (fitsWrong(practice, heard, bar, wrong)) {
                     return wrong;
                 }
             }
             return NOT;
         }
 
-        int leastFades(Shelf heard) {
+        int leastFades(Practice practice, Shelf heard) {
             for (int tried = 0; tried <= MOST_FADES; tried++) {
-                thought.takeAll(now);
-                if (unlikeFromThought(heard, tried) == NOT) {
+                practice.thought.takeAll(practice.now);
+                if (unlikeFromThought(practice, heard, tried) == NOT) {
                     return tried;
                 }
             }
             return NOT;
         }
 
-        int likeBars(Shelf heard) {
+        int likeBars(Practice practice, Shelf heard) {
             int bits = 0;
-            for (int b = 0; b < now.size; b++) {
-                if (mayHaveBeen(b, heard)) {
+            for (int b = 0; b < practice.now.size; b++) {
+                if (mayHaveBeen(practice, b, heard)) {
                     bits |= 1 << b;
                 }
             }
             return bits;
         }
 
-        private boolean mayHaveBeen(int bar, Shelf heard) {
-            thought.takeBar(bar, now, bar);
+        private boolean mayHaveBeen(Practice practice, int bar, Shelf heard) {
+            practice.thought.takeBar(bar, practice.now, bar);
             for (int day = 0; day < heard.length; day++) {
-                int came = practice.playOnce(thought, bar, 0);
+                int came = practice.playOnce(practice.thought, bar, 0);
                 if (differs(heard.at(day), came)) {
                     return false;
                 }
-                practice.sleepOver(thought, bar, fades());
+                practice.sleepOver(practice.thought, bar, practice.fades());
             }
             return true;
         }
 
         /** The one stands in place 0, the other in 1, since they may have the same bar. */
-        void hearEachOther(int a, int b, int n) {
-            thought.takeBar(0, now, a);
-            thought.takeBar(1, now, b);
+        void hearEachOther(Practice practice, int a, int b, int n) {
+            practice.thought.takeBar(0, practice.now, a);
+            practice.thought.takeBar(1, practice.now, b);
             firstBoth = NOT;
             for (int day = 0; day < n; day++) {
-                int cameOfA = practice.playOnce(thought, 0, 0);
+                int cameOfA = practice.playOnce(practice.thought, 0, 0);
                 int givenToA = practice.given;
-                int cameOfB = practice.playOnce(thought, 1, 0);
+                int cameOfB = practice.playOnce(practice.thought, 1, 0);
                 int givenToB = practice.given;
-                thought.learn(0, cameOfB, givenToB / 2);
-                thought.learn(1, cameOfA, givenToA / 2);
+                practice.thought.learn(0, cameOfB, givenToB / 2);
+                practice.thought.learn(1, cameOfA, givenToA / 2);
                 if (firstBoth == NOT && cameOfA == 1 && cameOfB == 1) {
                     firstBoth = day;
                 }
-                practice.sleepOver(thought, 0, fades());
-                practice.sleepOver(thought, 1, fades());
+                practice.sleepOver(practice.thought, 0, practice.fades());
+                practice.sleepOver(practice.thought, 1, practice.fades());
             }
         }
     }
