@@ -178,7 +178,7 @@ public final class PromisesTest {
         due("the tape is empty then", x.count(1), 0);
         due("law of nothing", x.law(), -100);
         String[] good = {"1", "9999", "0000", "r", "!!!!!!1", "((((((n))))))", "-(-(-1))", "1?2", "1;2;3?4;5", "1+2-3*4/5%6", "1<2&3=4|5>6",
-            "(1<2)<3", "--1", "1--1", "!(1)", "(1)+((2))", "q?7-n;w>r?12;3"};
+            "1?((((((n))))))", "1;2?!!!!!!n", "(1<2)<3", "--1", "1--1", "!(1)", "(1)+((2))", "q?7-n;w>r?12;3"};
         for (String text : good) {
             due("law of " + text, tell(x, text), 1);
         }
@@ -198,7 +198,7 @@ public final class PromisesTest {
     private static void faults(PractisedWrong x) {
         Object[] told = {"x", 0, "1 ", 1, "12345", 4, "1+", 2, "1;", 2, ";", 0, "1?", 2, "1?2?3", 3, "1<2<3", 3, "1=2>3", 3, "(1", 2, "(1;", 2, "(1?2)", 2,
             "()", 1, "1)", 1, "!!!!!!!1", 6, "(((((((1", 6, "-(!-(!-1", 6, "-(!-(!1", 7, "+1", 0, "1!", 1, "rw", 1, "r1", 1, "1r", 1, "", 0, "1;?", 2,
-            "1*+2", 2, "1*-2R", 4, "((1))+((((((1", 13, "((1))+(((((((1", 12, "1;2;3??", 6, "q?7-n;w>r?12;3;", 15};
+            "1*+2", 2, "1*-2R", 4, "((1))+((((((1", 13, "((1))+(((((((1", 12, "1;2;3??", 6, "1?(((((((1", 8, "q?7-n;w>r?12;3;", 15};
         for (int i = 0; i < told.length; i += 2) {
             due("law of " + told[i], tell(x, (String) told[i]), -100 - (Integer) told[i + 1]);
             due("the tape is empty then", x.count(1), 0);
@@ -396,6 +396,16 @@ public final class PromisesTest {
         due("just enough", x.with(5, 1), 30);
         due("all that can be", x.with(60, 0), 4);
         due("as few as that takes", x.with(60, 2), 5);
+        x = piece(40, 99, 39, 99);
+        x.mend(0, 3, 99);
+        x.mend(0, 5, 0);
+        x.mend(0, 6, 0);
+        tell(x, "1");
+        due("59 are too few", x.with(59, 0), 0);
+        due("60 are enough for one", x.with(60, 1), 1);
+        due("60 of them", x.with(60, 2), 60);
+        x.mend(0, 1, 999);
+        due("61 are too many", x.with(60, 0), 0);
     }
 
     private static void spread() {
@@ -584,6 +594,14 @@ public final class PromisesTest {
         bytes(x, 0, 20, 0, 60, 3, 0, 0);
         due("least", x.wrongFor(0, 0, 0), 60);
         due("greatest", x.wrongFor(0, 0, 1), 999);
+        x.mend(0, 0, 979);
+        bytes(x, 0, 20, 0);
+        due("the very most", x.wrongFor(0, 0, 0), 999);
+        due("the very most", x.wrongFor(0, 0, 1), 999);
+        x.mend(0, 0, 1);
+        bytes(x, 0, 0, 1);
+        due("none at all", x.wrongFor(0, 0, 0), 0);
+        due("none at all", x.wrongFor(0, 0, 1), 0);
         bytes(x, 0, 1, 1, 0, 0);
         due("it is not that bar", x.wrongFor(0, 0, 0), -2);
         bytes(x, 0, 0, 0, 44, 1);
@@ -849,6 +867,29 @@ public final class PromisesTest {
             due("still", x.redo(), i);
         }
         due("of", x.of(0, 3), 85);
+        forgotten();
+    }
+
+    /** What is kept behind forgotten changes still is of its own bar. */
+    private static void forgotten() {
+        promise = 33;
+        PractisedWrong x = piece(0, 0, 0, 0, 0, 0);
+        for (int i = 1; i <= 43; i++) {
+            x.mend(i % 3, i % 2, i);
+        }
+        for (int i = 0; i < 40; i++) {
+            x.undo();
+        }
+        // the first three told 1 to bar 1 wrong, 2 to bar 2 right, 3 to bar 0 wrong
+        int[] then = {0, 3, 0, 1, 2, 0};
+        for (int i = 0; i < 6; i++) {
+            due("of(" + i / 2 + ", " + i % 2 + ")", x.of(i / 2, i % 2), then[i]);
+        }
+        promise = 34;
+        for (int i = 4; i <= 43; i++) {
+            due("still", x.redo(), 43 - i);
+            due("of", x.of(i % 3, i % 2), i);
+        }
     }
 
     private static void body() {
