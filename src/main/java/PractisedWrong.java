@@ -272,11 +272,7 @@ public final class PractisedWrong {
             return BAD;
         }
         int refusal = refusalOfBytes(shelf);
-        if (refusal != 0) {
-            return refusal;
-        }
-        Shelf heard = shelves[shelf];
-        return what == 0 ? ear.leastWrong(practice, heard, bar) : ear.greatestWrong(practice, heard, bar);
+        return refusal != 0 ? refusal : ear.fittingWrong(practice, shelves[shelf], bar, what == 1);
     }
 
     public int fadesFor(int shelf) {
@@ -640,6 +636,7 @@ public final class PractisedWrong {
 
         private static final int FIRST_SLOW = 20;
         private static final int A_NIGHT = 60;
+        private static final int MOST_ADDED = 99;
 
         final Hands now = new Hands();
         final Hands thought = new Hands();
@@ -664,7 +661,12 @@ public final class PractisedWrong {
         }
 
         int gives(Hands hands, int bar, int slow, int came) {
-            return law.amount(hands.right[bar], hands.wrong[bar], came, slow, hands.marked[bar], hands.played[bar]);
+            int before = hands.played[bar];
+            if (!law.isTold()) {
+                return Math.max(1, 6 + 2 * came - 2 * slow - before);
+            }
+            law.nameAll(hands.right[bar], hands.wrong[bar], came, slow, hands.marked[bar], before);
+            return Math.max(0, Math.min(MOST_ADDED, law.workOut()));
         }
 
         int playOnce(Hands hands, int bar, int slow) {
@@ -719,7 +721,6 @@ public final class PractisedWrong {
         private static final int STACK_ROOM = 64;
         private static final int MOST_OPEN = 6;
         private static final int MOST_DIGITS = 4;
-        private static final int MOST_ADDED = 99;
 
         private static final int LEVEL_OF_COMPARING = 2;
         private static final int LEVEL_OF_OPERANDS = 5;
@@ -911,33 +912,35 @@ public final class PractisedWrong {
             }
         }
 
-        int amount(int right, int wrong, int came, int slow, int marked, int before) {
-            if (codeLength == 0) {
-                return Math.max(1, 6 + 2 * came - 2 * slow - before);
-            }
+        boolean isTold() {
+            return codeLength > 0;
+        }
+
+        void nameAll(int right, int wrong, int came, int slow, int marked, int before) {
             names[0] = right;
             names[1] = wrong;
             names[2] = came;
             names[3] = slow;
             names[4] = marked;
             names[5] = before;
-            return Math.max(0, Math.min(MOST_ADDED, workOut()));
         }
 
-        private int workOut() {
+        /** The worth of the first line that counts, 0 without one, for what was named. */
+        int workOut() {
             int top = 0;
+            boolean isPassedBy = false;
             for (int at = 0; at < codeLength; at++) {
                 int what = code[at];
-                if (what >= 0 && top < STACK_ROOM) {
-                    stack[top] = what < FIRST_NAME ? what : names[what - FIRST_NAME];
-                    top++;
+                if (isPassedBy) {
+                    isPassedBy = what != END;
                 } else if (what == END) {
                     return top > 0 ? stack[top - 1] : 0;
                 } else if (what == IF) {
+                    isPassedBy = stack[0] == 0;
                     top = 0;
-                    if (stack[0] == 0) {
-                        at = endOfLine(at);
-                    }
+                } else if (what >= 0 && top < STACK_ROOM) {
+                    stack[top] = what < FIRST_NAME ? what : names[what - FIRST_NAME];
+                    top++;
                 } else if (what == NO && top > 0) {
                     stack[top - 1] = stack[top - 1] == 0 ? 1 : 0;
                 } else if (what == NEGATE && top > 0) {
@@ -948,15 +951,6 @@ public final class PractisedWrong {
                 }
             }
             return 0;
-        }
-
-        private int endOfLine(int from) {
-            for (int at = from; at < codeLength; at++) {
-                if (code[at] == END) {
-                    return at;
-                }
-            }
-            return codeLength;
         }
 
         private static int joined(int operation, int a, int b) {
@@ -1216,24 +1210,12 @@ public final class PractisedWrong {
             return came != NOT && (told == 0 || told == 1) && told != came;
         }
 
-        private boolean fitsWrong(Practice practice, Shelf heard, int bar, int wrong) {
-            practice.thought.takeAll(practice.now);
-            practice.thought.wrong[bar] = wrong;
-            return unlikeFromThought(practice, heard, practice.fades()) == NOT;
-        }
-
-        int leastWrong(Practice practice, Shelf heard, int bar) {
-            for (int wrong = 0; wrong <= MOST_IN_FINGERS; wrong++) {
-                if (fitsWrong(practice, heard, bar, wrong)) {
-                    return wrong;
-                }
-            }
-            return NOT;
-        }
-
-        int greatestWrong(Practice practice, Shelf heard, int bar) {
-            for (int wrong = MOST_IN_FINGERS; wrong >= 0; wrong--) {
-                if (fitsWrong(practice, heard, bar, wrong)) {
+        int fittingWrong(Practice practice, Shelf heard, int bar, boolean isGreatest) {
+            for (int tried = 0; tried <= MOST_IN_FINGERS; tried++) {
+                int wrong = isGreatest ? MOST_IN_FINGERS - tried : tried;
+                practice.thought.takeAll(practice.now);
+                practice.thought.wrong[bar] = wrong;
+                if (unlikeFromThought(practice, heard, practice.fades()) == NOT) {
                     return wrong;
                 }
             }
