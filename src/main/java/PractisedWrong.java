@@ -63,7 +63,7 @@ public final class PractisedWrong {
     }
 
     public int bars(int shelf, int i, int n) {
-        if (noShelf(shelf) || i < 0 || outside(n, 1, BAR_ROOM)) {
+        if (noShelf(shelf) || outside(n, 1, BAR_ROOM)) {
             return BAD;
         }
         Shelf from = shelves[shelf];
@@ -74,8 +74,9 @@ public final class PractisedWrong {
             return OTHER_KIND;
         }
         int came = 0;
-        // the place is tested by what is left, since i + 2 may wrap
-        for (int place = i; came < n && place < from.length - 1; place += 2) {
+        // no range is told for the place: where nothing stands, below 0 or behind the end, it ends;
+        // tested by length - 1, since place + 1 may wrap
+        for (int place = i; came < n && place >= 0 && place < from.length - 1; place += 2) {
             if (bar((int) from.at(place), (int) from.at(place + 1)) < 0) {
                 break;
             }

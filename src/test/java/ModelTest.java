@@ -443,7 +443,7 @@ public final class ModelTest {
         }
 
         int bars(int shelf, int i, int n) {
-            if (!in(shelf, 0, 5) || i < 0 || !in(n, 1, 12)) return -1;
+            if (!in(shelf, 0, 5) || !in(n, 1, 12)) return -1;
             if (shelves[shelf] != null && !(shelves[shelf] instanceof short[])) return -12;
             int came = 0;
             try {
