@@ -42,7 +42,7 @@ public final class PromisesTest {
     public static void main(String[] args) {
         newObject(); barAndBars(); mendAndOf(); tapeAndLaw(); worth(); playing();
         plan(); came(); lesson(); times(); stays(); with(); spread(); stop(); finger(); whole();
-        odds(); all(); judge(); wrongFor(); fadesFor(); which(); hearing(); drawn();
+        odds(); all(); judge(); wrongFor(); fadesFor(); which(); hearing(); fromNow(); drawn();
         play(); night(); thursday(); led(); imageAndBack(); undoAndRedo();
         body(); act(); keep(); rowPutElement(); shift(); taken(); count();
         System.out.println(wrong == 0 ? "promises: all answers are as due" : "promises: " + wrong + " answers are not as due");
@@ -692,6 +692,38 @@ public final class PromisesTest {
         due("half is cut: 14, 11", x.hearing(1, 1, 0), 3);
         tell(x, "200*q");
         due("held: 99 by half", x.hearing(1, 1, 0), 10 + 49 - 11);
+    }
+
+    /** What was played today counts on the first day of what is tried in thought. */
+    private static void fromNow() {
+        PractisedWrong x = piece(10, 15);
+        x.mend(0, 2, 1);
+        x.mend(0, 5, 0);
+        x.mend(0, 6, 0);
+        x.mend(0, 7, 0);
+        tell(x, "n");
+        promise = 12;
+        due("nothing played: 10, 11, 13, 16", x.times(0, 1), 4);
+        due("the first adds nothing", x.play(0, 1), 1);
+        due("played once: 11, 13, 16", x.times(0, 1), 3);
+        promise = 14;
+        due("played once: 11, 13, 16", x.with(60, 2), 3);
+        promise = 17;
+        due("3 as it is, 1 anew", x.finger(0, 1), 2);
+        promise = 18;
+        due("played once: 11, 13, 16", x.whole(0), 3);
+        due("played once: 11, 13, 16", x.whole(1), 3);
+        promise = 25;
+        tell(x, "n*4");
+        due("4 of one's own, 2 heard", x.hearing(0, 1, 0), 1);
+        promise = 24;
+        tell(x, "0");
+        x.mend(0, 6, 4);
+        // 15 and 4 for the two of today, then 2: 21 against 20
+        bytes(x, 0, 1, 1, 0);
+        due("the first night brings back more", x.which(0), 1);
+        bytes(x, 0, 1, 1, 1);
+        due("the first night brings back more", x.which(0), 0);
     }
 
     private static void drawn() {
