@@ -78,7 +78,8 @@ public final class ReadmeTest {
     }
 
     private static String run(File at, String... command) throws IOException, InterruptedException {
-        Process process = new ProcessBuilder(command).directory(at).redirectErrorStream(true).start();
+        // what javac and java say beside goes past: some machines have them greet there
+        Process process = new ProcessBuilder(command).directory(at).redirectError(ProcessBuilder.Redirect.INHERIT).start();
         process.getOutputStream().close();
         String out = new String(process.getInputStream().readAllBytes());
         int code = process.waitFor();
